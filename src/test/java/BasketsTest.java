@@ -341,5 +341,13 @@ final class BasketsTest {
         Due.due("31: missing", told(x, 1, 80, 2), 4);
         Due.due("31: the first that is not", told(x, 1, 0, 2, 75), 2);
         Due.due("31: none wait", x.count(10), 0);
+        VoucherHall y = basket(100, 0);
+        for (int i = 0; i < 6; i++) {
+            y.promotion(1, 10, 0);
+        }
+        joinAll(y);
+        Due.due("31: six rows", told(y, 0, 90, 1, 80, 2, 70, 3, 60, 4, 50, 5, 40), 0);
+        Due.due("31: the twelfth", told(y, 0, 90, 1, 80, 2, 70, 3, 60, 4, 50, 5, 41), 12);
+        Due.due("31: the thirteenth", told(y, 0, 90, 1, 80, 2, 70, 3, 60, 4, 50, 5, 40, 0), 13);
     }
 }

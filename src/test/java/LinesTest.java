@@ -271,7 +271,9 @@ final class LinesTest {
         Due.due("14: change", x.stands(0, 9, 10, 4), 1);
         Due.due("14: change on the last day", x.stands(0, 10, 10, 4), 1);
         Due.due("14: no change of an ended one", x.stands(0, 11, 10, 4), 0);
-        x.spend(0, 0, 50, 10);
+        x.spend(0, 0, 49, 10);
+        Due.due("14: change of a worth of 1", x.stands(0, 10, 10, 4), 1);
+        x.spend(0, 0, 1, 10);
         Due.due("14: no change without worth", x.stands(0, 10, 10, 4), 0);
     }
 
