@@ -1,6 +1,38 @@
 /** The face by the numbers of its promises, for tests that choose a call by chance. */
 final class Face {
+    /* The first name stands at number 2: promise 1 is the constructor. */
+    private static final String[] NAMES = ("firm shop days begin isOf spend load split back lose withdraw line stands idle owes gain fall feed trim law "
+        + "item items empty promotion join mix mixed costs tell check exchange hole guess barred tries sheet mark copy count").split(" ");
+
     private Face() {
+    }
+
+    static int number(String name) {
+        for (int i = 0; i < NAMES.length; i++) {
+            if (NAMES[i].equals(name)) {
+                return i + 2;
+            }
+        }
+        throw new IllegalArgumentException("no call " + name);
+    }
+
+    /** A call that is told as a text: "spend 0 1 20 0"; NONE, MIN and MAX stand for their numbers. */
+    static int call(VoucherHall x, String told) {
+        String[] words = told.trim().split(" +");
+        int[] args = new int[6];
+        for (int i = 1; i < words.length; i++) {
+            args[i - 1] = value(words[i]);
+        }
+        return call(x, number(words[0]), args[0], args[1], args[2], args[3], args[4], args[5]);
+    }
+
+    private static int value(String word) {
+        switch (word) {
+            case "NONE": return VoucherHall.NONE;
+            case "MIN": return Integer.MIN_VALUE;
+            case "MAX": return Integer.MAX_VALUE;
+            default: return Integer.parseInt(word);
+        }
     }
 
     static int call(VoucherHall x, int number, int a, int b, int c, int d, int e, int f) {

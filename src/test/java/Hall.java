@@ -26,7 +26,7 @@ final class Hall {
         return x.law(land);
     }
 
-    private static int four(String text, int at) {
+    static int four(String text, int at) {
         int number = 0;
         for (int i = at; i < at + 4; i++) {
             number = number << 8 | (i < text.length() ? text.charAt(i) : 0);
