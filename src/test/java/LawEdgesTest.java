@@ -232,6 +232,13 @@ final class LawEdgesTest {
             run.due("stands 0 0 0 2", i).due("stands 0 0 0 4", i % 3 == 0 ? 0 : 1).due("gain 0 0 0", 2 + i + (i == 2 ? 0 : 50 - i + 1));
             run.text("end " + i + " change " + i % 2 + " gain 50-" + i).due("law 1", 4).due("stands 1 0 0 2", i).due("stands 1 0 0 4", i % 2);
         }
+        // Wherever a ! stood in the law ahead, the short one ends just there and must not take it over.
+        for (String first : new String[] {"end !!!!!!!!1 change 1 gain 1", "end !1+!1+!1 change 1 gain 1", "end 1 change !!!!!!!!1 gain !!!!!!!!1"}) {
+            for (String gain : new String[] {"7", "!0", "3+4", "3+!0", "3+4-!0"}) {
+                Run two = new Run("firm", "begin 0 0 0 1 100 0").law(0, first).law(0, "end 5 change 1 gain " + gain);
+                two.due("gain 0 0 0", gain.equals("!0") ? 1 : gain.equals("3+!0") ? 4 : gain.equals("3+4-!0") ? 6 : 7);
+            }
+        }
     }
 
     private static void value(String e, int want) {

@@ -39,7 +39,7 @@ final class RefusedTest {
         for (int what = 0; what < due.length; what++) {
             full.due("count " + what, due[what]);
         }
-        full.due("law 0", 18).due("check", 1);
+        full.due("hole 2 0", 0).due("hole 2 1", 15).due("law 0", 18).due("check", 1);
     }
 
     /** The last one that there is room for, and the first that there is none for. */

@@ -45,7 +45,7 @@ final class States {
             run.does("spend " + line % 30 + " " + line % 10 + " " + line + " " + 9 * line);
         }
         run.times(8, "item 50 3").does("promotion 0 10 8", "promotion 1 20 30").times(4, "promotion 1 5 0").does("join 0 1 1", "join 0 2 1");
-        run.times(16, "exchange 2 4 1 1").times(60, "guess 9999 4").times(20, "tell 1").does("sheet 0 16", "sheet 1 16", "mark 0 15 8");
+        run.times(15, "exchange 2 4 1 1").does("exchange 4 2 3 2").times(60, "guess 9999 4").times(20, "tell 1").does("sheet 0 16", "sheet 1 16", "mark 0 15 8");
         return run.text(LONGEST_LAW);
     }
 }
